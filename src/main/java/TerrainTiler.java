@@ -17,7 +17,6 @@ public final class TerrainTiler {
     private static final int WAYS = 4;
     private static final int MOST_VARIANTS = 8;
     private static final int LARGEST_SET = 65535;
-    private static final int TEXT_ROOM = 150;
     private static final int LARGEST_BYTE = 255;
 
     /** The masks of a cell's layers lose a bit each, and a part has a bit of its own: 1 + 3 + 2 + 1. */
@@ -33,9 +32,6 @@ public final class TerrainTiler {
     private static final int CODES = TERRAINS * CODES_OF_TERRAIN;
     private static final int FIRST_FULL_CODE = CODES_OF_TERRAIN - MOST_VARIANTS;
 
-    /** An item is never longer than its corners, and ten signs stand between eleven rows. */
-    private static final int WRITTEN_ROOM = CORNERS + LONGEST_SIDE;
-
     private static final int BLANK = ' ', SLASH = '/', ZERO = '0', NINE = '9', FIRST_LETTER = 'a';
 
     private final State now = new State();
@@ -43,8 +39,8 @@ public final class TerrainTiler {
     private final Region region = new Region();
     private final Sketch sketch = new Sketch();
     private final Tally tally = new Tally();
-    private final Bytes text = new Bytes(TEXT_ROOM);
-    private final Bytes output = new Bytes(WRITTEN_ROOM);
+    private final Bytes text = new Bytes();
+    private final Bytes output = new Bytes();
     private final MapReader reader = new MapReader();
 
     public TerrainTiler() {
@@ -109,7 +105,7 @@ public final class TerrainTiler {
         region.forget();
         region.gather(now.land, x, y);
         int changed = 0;
-        for (int i = 0; i < region.count(); i++) {
+        for (int i = 0; i < region.count; i++) {
             changed += now.changeCorner(region.columnOf(i), region.rowOf(i), terrain);
         }
         return changed;
@@ -380,7 +376,7 @@ public final class TerrainTiler {
         if (!isWithin(code, 0, LARGEST_BYTE)) {
             return BAD_VALUE;
         }
-        if (text.length >= TEXT_ROOM) {
+        if (text.length >= Bytes.ROOM) {
             return FULL;
         }
         text.append(code);
@@ -1008,7 +1004,7 @@ public final class TerrainTiler {
     private static final class Region {
         private final int[] met = new int[CORNERS];
         private final int[] found = new int[CORNERS];
-        private int foundCount;
+        private int count;
 
         void forget() {
             for (int i = 0; i < CORNERS; i++) {
@@ -1020,10 +1016,6 @@ public final class TerrainTiler {
             return met[cornerIndex(x, y)] == 1;
         }
 
-        int count() {
-            return foundCount;
-        }
-
         int columnOf(int index) {
             return found[index] % CORNERS_IN_ROW;
         }
@@ -1033,10 +1025,10 @@ public final class TerrainTiler {
         }
 
         void gather(Land land, int x, int y) {
-            foundCount = 0;
+            count = 0;
             int terrain = land.terrainAt(x, y);
             meet(land, x, y, terrain);
-            for (int i = 0; i < foundCount && i < CORNERS; i++) {
+            for (int i = 0; i < count && i < CORNERS; i++) {
                 int column = columnOf(i);
                 int row = rowOf(i);
                 meet(land, column - 1, row, terrain);
@@ -1050,10 +1042,10 @@ public final class TerrainTiler {
             if (!land.isCorner(x, y) || knows(x, y) || land.terrainAt(x, y) != terrain) {
                 return;
             }
-            if (foundCount < CORNERS) {
+            if (count < CORNERS) {
                 met[cornerIndex(x, y)] = 1;
-                found[foundCount] = cornerIndex(x, y);
-                foundCount++;
+                found[count] = cornerIndex(x, y);
+                count++;
             }
         }
     }
@@ -1084,7 +1076,7 @@ public final class TerrainTiler {
         }
 
         private void add(int code) {
-            if (places[code] == NONE && count < CODES) {
+            if (places[code] == NONE) {
                 places[code] = count;
                 codes[count] = code;
                 sums[count] = 0;
@@ -1094,17 +1086,14 @@ public final class TerrainTiler {
         }
     }
 
-    /** A row of bytes that grows up to its room. */
+    /** A text; what is written, at most 121 corners and 10 signs between rows, fits in as well. */
     private static final class Bytes {
-        private final int[] codes;
+        private static final int ROOM = 150;
+        private final int[] codes = new int[ROOM];
         private int length;
 
-        Bytes(int room) {
-            codes = new int[room];
-        }
-
         void append(int code) {
-            if (length < codes.length) {
+            if (length < ROOM) {
                 codes[length] = code;
                 length++;
             }
