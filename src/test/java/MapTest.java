@@ -199,6 +199,8 @@ public final class MapTest {
         TerrainTiler large = new TerrainTiler();
         large.begin(10, 10, 3);
         check.due("flood all", large.flood(5, 5, 4), 121);
+        check.due("flood again", large.flood(0, 0, 1), 121);
+        check.due("flood again", large.flood(0, 0, 2), 121);
         TerrainTiler snake = Check.loaded("5a/4ba/5a/a4b/5a");
         check.due("flood a snake", snake.flood(0, 0, 5), 17);
     }
@@ -240,7 +242,13 @@ public final class MapTest {
         x.setCorner(1, 0, 0);
         check.due("regions", x.regions(0), 3);
         check.due("not recorded", Check.drain(x), 2);
-        check.due("regions", new TerrainTiler().regions(0), 1);
+        TerrainTiler plain = new TerrainTiler();
+        check.due("regions", plain.regions(0), 1);
+        check.due("regions again", plain.regions(0), 1);
+        plain.fill(1, 0, 1, 1, 2);
+        plain.setCorner(0, 1, 2);
+        check.due("regions", plain.regions(0), 2);
+        check.due("regions again", plain.regions(0), 2);
         for (int bad : new int[] {LOW, -1, 6, HIGH}) {
             check.due("regions", x.regions(bad), BAD_INDEX);
         }

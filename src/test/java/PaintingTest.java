@@ -16,6 +16,7 @@ public final class PaintingTest {
         promise33();
         promise34();
         recording();
+        undoneWhole();
         check.end();
     }
 
@@ -208,6 +209,12 @@ public final class PaintingTest {
         for (int bad : new int[] {LOW, -1, 5, HIGH}) {
             check.due("kind", x.kind(3, bad), BAD_VALUE);
         }
+        TerrainTiler corner = Check.loaded("ab/bb");
+        corner.setRank(0, 1);
+        corner.paint();
+        check.due("kinds", corner.kinds(), 2);
+        kind(corner, 0, 1, 15, 0, 0, 1);
+        kind(corner, 1, 0, 1, 0, 0, 1);
         x.begin(3, 3, 0);
         check.due("no kinds", x.kind(0, 4), BAD_INDEX);
         x.setVariants(0, 4);
@@ -270,6 +277,39 @@ public final class PaintingTest {
         check.due("the seed is back", x.setSeed(0), 0);
         check.due("the border is back", x.setBorder(false), 0);
         check.due("paths are back", x.size(2), 0);
+    }
+
+    /** What depends on a restored setting or picture is restored with it. */
+    private static void undoneWhole() {
+        TerrainTiler x = Check.loaded("ab/bb");
+        x.setRank(0, 1);
+        x.undo();
+        check.due("the lowest layer", x.layer(0, 0, 0, 0), 0);
+        x.setTiles(1, 0);
+        x.undo();
+        check.due("pieces as before", x.piece(0, 0, 1, 1), 14);
+        x.setTiles(1, 1 << 1);
+        x.undo();
+        check.due("parts as before", x.parts(1, 14), 1);
+        x.setPath(0, 0, true);
+        x.paint();
+        x.setBorder(true);
+        x.fill(0, 0, 1, 1, 3);
+        x.setCorner(0, 0, 2);
+        long before = x.digest();
+        check.due("paint", x.paint(), 1);
+        check.due("undo", x.undo(), 4);
+        check.due("digest", x.digest(), before);
+        x.undo();
+        x.undo();
+        x.undo();
+        check.due("painted as it should be", x.stale(), 0);
+        x.paintCell(0, 0);
+        x.setPath(0, 0, false);
+        x.paint();
+        x.undo();
+        x.undo();
+        check.due("with its path tile", x.stale(), 0);
     }
 
     private static void record(TerrainTiler x, int call) {

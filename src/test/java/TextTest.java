@@ -52,6 +52,31 @@ public final class TextTest {
         rows();
         blanks();
         otherBytes();
+        usedAgain();
+    }
+
+    /** Bytes of an earlier text are gone, and the last byte of a full one has none behind it. */
+    private static void usedAgain() {
+        TerrainTiler x = new TerrainTiler();
+        Check.type(x, "111111111111");
+        check.due("textFault", x.textFault(), 0);
+        x.clearText();
+        x.type('1');
+        check.due("one digit", x.textFault(), 1);
+        x.type('1');
+        check.due("two digits", x.textFault(), 2);
+        x.clearText();
+        Check.type(x, "3a/3a");
+        check.due("textFault", x.textFault(), NONE);
+        x.clearText();
+        Check.type(x, "2a/2a");
+        check.due("shorter rows", x.textFault(), NONE);
+        String blanks = " ".repeat(145);
+        fault(blanks + "2a/2a", NONE);
+        fault(blanks + "2a/a1", 150);
+        fault(blanks + "2a/11", 150);
+        fault(blanks + "2a/12", 148);
+        fault(blanks.substring(1) + "2a/111", 147);
     }
 
     private static void endsTooEarly() {
