@@ -97,6 +97,12 @@ public final class MapTest {
         check.due("size(2)", x.size(2), 2);
         x.setPath(0, 0, false);
         check.due("size(2)", x.size(2), 1);
+        x.begin(10, 10, 0);
+        x.setPath(0, 5, true);
+        x.setPath(9, 9, true);
+        check.due("the largest w", x.size(0), 10);
+        check.due("the largest h", x.size(1), 10);
+        check.due("size(2)", x.size(2), 2);
         for (int bad : new int[] {LOW, -1, 3, HIGH}) {
             check.due("size", x.size(bad), BAD_VALUE);
         }
