@@ -4,28 +4,48 @@ final class Check {
     private final String name;
     private int asked;
     private int wrong;
+    private String sentence = "";
+    private int sentences;
+    private int askedBefore;
 
     Check(String name) {
         this.name = name;
     }
 
+    /** The sentence of the document that the next questions are about; there must be some. */
+    void says(String next) {
+        endSentence();
+        sentence = next;
+        sentences++;
+        askedBefore = asked;
+    }
+
+    private void endSentence() {
+        if (sentences > 0 && asked == askedBefore) {
+            wrong++;
+            System.out.println(name + ": nothing is asked about \"" + sentence + "\"");
+        }
+    }
+
     void due(String call, long got, long want) {
         asked++;
         if (got != want) {
-            wrong++;
-            if (wrong <= MOST_TOLD) {
-                System.out.println(name + ": " + call + " answered " + got + ", due is " + want);
-            }
+            tell(call + " answered " + got + ", due is " + want);
         }
     }
 
     void holds(String what, boolean so) {
         asked++;
         if (!so) {
-            wrong++;
-            if (wrong <= MOST_TOLD) {
-                System.out.println(name + ": " + what + " does not hold");
-            }
+            tell(what + " does not hold");
+        }
+    }
+
+    private void tell(String fault) {
+        wrong++;
+        if (wrong <= MOST_TOLD) {
+            String of = sentences > 0 ? " (\"" + sentence + "\")" : "";
+            System.out.println(name + ": " + fault + of);
         }
     }
 
@@ -34,7 +54,9 @@ final class Check {
     }
 
     void end() {
-        System.out.println(name + ": " + asked + " answers, " + wrong + " not as due");
+        endSentence();
+        String of = sentences > 0 ? " to " + sentences + " sentences" : "";
+        System.out.println(name + ": " + asked + " answers" + of + ", " + wrong + " not as due");
         if (wrong != 0 || asked == 0) {
             System.exit(1);
         }
@@ -57,6 +79,15 @@ final class Check {
         return tiler;
     }
 
+    /** A tiler with a new map, nothing painted yet. */
+    static TerrainTiler begun(int w, int h, int terrain) {
+        TerrainTiler tiler = new TerrainTiler();
+        if (tiler.begin(w, h, terrain) != w * h) {
+            throw new IllegalStateException("the test's own map cannot be: " + w + " times " + h);
+        }
+        return tiler;
+    }
+
     /** What is written by write(). */
     static String written(TerrainTiler tiler) {
         int length = tiler.write();
@@ -71,6 +102,12 @@ final class Check {
     void refused(String call, TerrainTiler tiler, long before, int got, int want) {
         due(call, got, want);
         due("digest() after " + call, tiler.digest(), before);
+    }
+
+    /** That the map is this one, written as a text. */
+    void map(String what, TerrainTiler tiler, String want) {
+        String got = written(tiler);
+        holds(what + ": the map " + want + ", not " + got + ",", got.equals(want));
     }
 
     /** How many states the history holds; it is empty then. */
