@@ -167,6 +167,7 @@ public final class HistoryEdgesTest {
         calls.put("setPath off", x -> x.setPath(1, 1, false));
         calls.put("setRank", x -> x.setRank(1, 5));
         calls.put("setTiles", x -> x.setTiles(1, 0));
+        calls.put("setTiles with fewer parts", x -> x.setTiles(4, 65535));
         calls.put("setVariants", x -> x.setVariants(1, 8));
         calls.put("setSeed", x -> x.setSeed(HIGH));
         calls.put("setBorder", x -> x.setBorder(false));

@@ -393,6 +393,14 @@ public final class MapEdgesTest {
         check.due("the highest", x.raise(5, 1, 0), 0);
         check.due("the lowest again", x.raise(5, 0, 5), 6);
         check.map("the lowest again", x, "fb2cbf/2b2c2b");
+        TerrainTiler y = Check.begun(5, 1, 0);
+        y.setRank(0, 5);
+        y.setRank(3, 0);
+        // by ranks: d b c e f a
+        check.due("the second", y.raise(0, 0, 1), 8);
+        check.map("the second", y, "bcef2a/2cef2a");
+        check.due("the last but one", y.raise(0, 1, 5), 4);
+        check.map("the last but one", y, "3ef2a/f2ef2a");
     }
 
     private static void raiseCountsChanges() {

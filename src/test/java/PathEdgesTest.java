@@ -63,6 +63,11 @@ public final class PathEdgesTest {
         check.due("taken again", x.setPath(0, 0, false), 0);
         check.due("no such cell", x.setPath(1, 0, false), BAD_INDEX);
         check.due("no such cell", x.setPath(0, 1, true), BAD_INDEX);
+        TerrainTiler y = Check.begun(3, 2, 0);
+        check.due("one cell", y.setPath(1, 0, true), 0);
+        check.due("another cell", y.setPath(0, 1, true), 0);
+        check.due("another cell taken", y.setPath(0, 1, false), 1);
+        check.due("the one still", y.setPath(1, 0, false), 1);
     }
 
     private static void bitsOfNeighbours() {

@@ -34,6 +34,7 @@ public final class TextEdgesTest {
         endsWithAShortRow();
         endsWithTheFirstRow();
         endsBehindANumber();
+        checkedAgain();
         loads();
         loadsFaults();
         writesFewItems();
@@ -440,6 +441,31 @@ public final class TextEdgesTest {
         fault("2a/2a11", 7);
         fault("2a/2a 1 ", 8);
         fault("11a1", 4);
+    }
+
+    private static void checkedAgain() {
+        check.says("Checks the text.");
+        TerrainTiler x = new TerrainTiler();
+        String text = "2a/2a/11";
+        int[] want = {0, 1, 2, 3, 4, NONE, 6, 7, 8};
+        for (int i = 0; i <= text.length(); i++) {
+            check.due("after " + i + " bytes", x.textFault(), want[i]);
+            check.due("the same again", x.textFault(), want[i]);
+            if (i < text.length()) {
+                x.type(text.charAt(i));
+            }
+        }
+        x.clearText();
+        check.due("an empty text again", x.textFault(), 0);
+        Check.type(x, "3b/b2b");
+        check.due("another text", x.textFault(), NONE);
+        x.type('/');
+        check.due("with a row more", x.textFault(), 7);
+        x.type('x');
+        check.due("with a fault", x.textFault(), 7);
+        x.clearText();
+        Check.type(x, "ab/cd");
+        check.due("shorter rows", x.textFault(), NONE);
     }
 
     private static void loads() {
